@@ -1124,6 +1124,28 @@ public final class BellBayModel {
         return t;
     }
 
+    /** Many quick ears and no rests, so that the 300th strike comes ahead of the last second. */
+    static Told crowdedTold(Random r) {
+        Told t = randomTold(r, 1, 300, 0);
+        t.churches = 2 + r.nextInt(8);
+        t.seconds = Math.max(t.seconds, 120);
+        t.kind = new int[9];
+        t.late = new int[9];
+        t.rests = new int[9];
+        for (int e = 6 + r.nextInt(7); e > 0; e--) {
+            int a = r.nextInt(t.churches);
+            t.ears.add(new int[] {a, (a + 1 + r.nextInt(t.churches - 1)) % t.churches, 1 + r.nextInt(3), r.nextInt(3)});
+        }
+        t.fogs.add(spell(r, t.ears.size(), t.seconds));
+        t.deafs.add(spell(r, t.churches, t.seconds));
+        t.funerals.add(spell(r, t.churches, t.seconds));
+        t.starts.clear();
+        for (int i = 1 + r.nextInt(4); i > 0; i--) {
+            t.starts.add(new int[] {r.nextInt(t.churches), r.nextInt(10), 1 + r.nextInt(3)});
+        }
+        return t;
+    }
+
     private static int[] spell(Random r, int all, int seconds) {
         int from = r.nextInt(seconds);
         int to = Math.min(seconds - 1, from + r.nextInt(1 + seconds / 3));
@@ -1293,11 +1315,27 @@ public final class BellBayModel {
         }
     }
 
+    private static void crowdedRuns(int from, int to) throws Exception {
+        int full = 0;
+        for (int seed = from; seed < to; seed++) {
+            Random r = new Random(seed * 7919L);
+            Told told = crowdedTold(r);
+            String text = textOf(told, r);
+            full += Model.play(told).bells.size() == 300 ? 1 : 0;
+            new BellBayModel(seed, told, text).ask(120, false);
+        }
+        if (full < (to - from) / 4) {
+            wrong++;
+            System.out.println("only " + full + " bays come to the 300th strike");
+        }
+    }
+
     public static void main(String[] args) throws Exception {
         runs(0, 700, 4, 40, 5);
         runs(1000, 1200, 9, 60, 8);
         runs(2000, 2030, 9, 120, 12);
         runs(3000, 3040, 3, 300, 4);
+        crowdedRuns(4000, 4120);
         System.out.println(asked + " answers asked, " + wrong + " not as due");
         if (wrong != 0) {
             System.exit(1);
