@@ -140,6 +140,7 @@ public final class BellBayPromises {
         due("count(6)", x.count(6), 2);
         due("count(7)", x.count(7), 4);
         put(x, "bay churches 2 seconds 5;ear 0 of 1 takes 1 across;ear 1 of 0 takes 1 across;ear 1 of 0 takes 1 across;");
+        due("strikes() of the old one", x.strikes(), 1);
         due("bay() anew", x.bay(), 4);
         due("count(6)", x.count(6), 0);
         due("count(7)", x.count(7), 0);
@@ -147,6 +148,7 @@ public final class BellBayPromises {
         due("strikes()", x.strikes(), 0);
         put(x, " \n ");
         due("bay() of blanks", x.bay(), 0);
+        due("count(1)", x.count(1), 0);
         due("count(0)", x.count(0), 0);
         due("strikes()", x.strikes(), -2);
         due("bay() of nothing", nothing().bay(), 0);
@@ -186,6 +188,9 @@ public final class BellBayPromises {
         faulty("bay churches -1 seconds 9;", 1, 13);
         faulty("Bay churches 1 seconds 9;", 1, 0);
         faulty("bays churches 1 seconds 9;", 1, 0);
+        faulty("bayz churches 1 seconds 9;", 1, 0);
+        faulty("bay{churches 1 seconds 9;", 1, 3);
+        faulty("bay churches 1/seconds 9;", 1, 14);
         faulty("bay churches 1 seconds 9:", 1, 24);
         faulty("bay churches 1 seconds 9;\t", 1, 25);
         faulty("bay churches 1 seconds 9;" + (char) 233, 1, 25);
@@ -218,6 +223,10 @@ public final class BellBayPromises {
         faulty(bay + "starts 1 at 9 hour 2;", 2, 37);
         faulty(bay + "starts 1 at 1 hour 0;", 2, 44);
         faulty(bay + "starts 1 at 1 hour 100;", 2, 44);
+        due("the last of all", of(bay + "church late 1 rests 99;church late 60 rests 0;ear 1 of 0 takes 60 along;wind at 8 against 20;"
+            + "fog on 0 from 8 to 8;deaf 1 from 8 to 8;funeral at 1 from 8 to 8;starts 1 at 8 hour 99;").count(4), 9);
+        due("the first of all", of(bay + "church late 1 rests 0;ear 0 of 1 takes 1 along;wind at 0 against 0;"
+            + "fog on 0 from 0 to 8;deaf 0 from 0 to 0;funeral at 0 from 0 to 0;starts 0 at 0 hour 1;").count(4), 8);
         crowds(bay);
         BellBay x = nothing();
         put(x, "bay churches 0 seconds 9;");
@@ -385,6 +394,11 @@ public final class BellBayPromises {
         due("fog ahead of the deaf", order.lost(0), 1);
         due("none on the deaf", order.lost(1), 0);
         due("the end ahead of fog", order.lost(5), 1);
+        BellBay longest = of("bay churches 2 seconds 300; ear 1 of 0 takes 1 across; ear 1 of 0 takes 60 across; funeral at 1 from 299 to 299;"
+            + "starts 0 at 299 hour 99; starts 0 at 298 hour 98;");
+        due("heard at 300, 358 and 359", longest.lost(5), 3);
+        due("heard at 299", longest.hour(1, 299), 99);
+        due("none above 99", longest.lost(6), 0);
         BellBay late = of("bay churches 2 seconds 9; church eager rests 0; church late 9 rests 0; ear 1 of 0 takes 2 across;"
             + "funeral at 1 from 0 to 8; starts 0 at 0 hour 99;");
         due("99 and one more ahead of lateness", late.lost(6), 1);
@@ -434,6 +448,7 @@ public final class BellBayPromises {
         due("when(0, 3)", x.when(0, 3), -2);
         due("when(0, -1)", x.when(0, -1), -2);
         due("when(3, 0)", x.when(3, 0), -2);
+        due("when of two at once", of("bay churches 1 seconds 9; starts 0 at 1 hour 1; starts 0 at 4 hour 1;").when(0, 2), 3);
         x.muffle(1, 1);
         due("when(1, 0)", x.when(1, 0), NONE);
         due("when(2, 1)", x.when(2, 1), NONE);
@@ -550,6 +565,7 @@ public final class BellBayPromises {
         due("night(0, 0)", x.night(0, 0), 1);
         due("night(0, 1)", x.night(0, 1), 1);
         due("night(6, 1)", x.night(6, 1), 1);
+        due("night(7, 0)", x.night(7, 0), 1);
         due("night(8, 0)", x.night(8, 0), 0);
         due("night(8, 1)", x.night(8, 1), 0);
         due("night(29, 0)", x.night(29, 0), 0);
@@ -606,6 +622,7 @@ public final class BellBayPromises {
         due("needs(-1)", x.needs(-1), -2);
         x.cut(0, 1);
         due("needs(2)", x.needs(2), NONE);
+        due("needs(0) with one strike in all", x.needs(0), 0);
         BellBay y = fork();
         due("needs(3)", y.needs(3), 0);
         y.cut(3, 1);
@@ -622,9 +639,14 @@ public final class BellBayPromises {
         due("harm(0) of no bay", nothing().harm(0), LONE);
         x.cut(0, 1);
         due("harm(0) of a cut one", x.harm(0), 0);
+        due("harm(1) of none behind a cut one", x.harm(1), 0);
         BellBay y = of("bay churches 2 seconds 30; church eager rests 0; church proud rests 0; ear 1 of 0 takes 3 across;"
             + "starts 0 at 0 hour 9; starts 1 at 7 hour 5; starts 1 at 8 hour 6;");
         due("harm(0) below 0", y.harm(0), -1);
+        BellBay z = fork();
+        z.cut(0, 1);
+        due("harm(2), one being cut", z.harm(2), 0);
+        due("harm(1), one being cut", z.harm(1), 2);
     }
 
     private static void p26() {
@@ -677,6 +699,11 @@ public final class BellBayPromises {
         due("gain(0) of no bay", nothing().gain(0), LONE);
         x.muffle(2, 1);
         due("gain(0) with one that makes none", x.gain(0), LONE);
+        BellBay y = of("bay churches 1 seconds 9; starts 0 at 8 hour 1;");
+        due("gain(-20)", y.gain(-20), 0);
+        due("gain(-21)", y.gain(-21), LONE);
+        due("gain(20)", y.gain(20), 0);
+        due("gain(21)", y.gain(21), LONE);
     }
 
     private static void p29() {
@@ -792,6 +819,7 @@ public final class BellBayPromises {
             due("common(" + s + ")", x.common(s), want[s]);
         }
         due("common(9)", x.common(9), -2);
+        due("common of church 0", of("bay churches 2 seconds 9; starts 0 at 0 hour 4;").common(0), 4);
         due("common(-1)", x.common(-1), -2);
     }
 
@@ -809,6 +837,7 @@ public final class BellBayPromises {
         due("splits()", hours().splits(), 7);
         due("splits() of one hour", round().splits(), 0);
         due("splits() of no bay", nothing().splits(), -2);
+        due("splits() from 0 on", of("bay churches 2 seconds 9; starts 0 at 0 hour 8; starts 1 at 0 hour 9;").splits(), 9);
         due("splits() that end", of("bay churches 3 seconds 9; starts 0 at 1 hour 8; starts 1 at 2 hour 9; starts 0 at 5 hour 9;").splits(), 3);
     }
 
@@ -861,6 +890,9 @@ public final class BellBayPromises {
         due("rest", of(base + "church eager rests 0; church eager rests 1;" + ear).without(4), 1);
         due("pride", of(base + "church proud rests 0; church proud rests 0;" + ear).without(5), 2);
         due("lateness", of(base + "church late 60 rests 0; church late 6 rests 0;" + ear).without(6), 1);
+        due("wind, to the last second", of(base + "ear 1 of 0 takes 9 along;wind at 0 against 1;starts 0 at 0 hour 9;").without(3), 1);
+        due("wind, beyond it", of(base + "ear 1 of 0 takes 10 along;wind at 0 along 1;starts 0 at 0 hour 9;").without(3), -1);
+        due("lateness, to the last", of(base + "church eager rests 0;church late 1 rests 0;ear 1 of 0 takes 9 along;starts 0 at 0 hour 9;").without(6), 1);
         due("fewer", of(base + "church eager rests 0; church proud rests 0; deaf 1 from 3 to 3;"
             + "ear 1 of 0 takes 3 across; starts 0 at 0 hour 9; starts 1 at 4 hour 3; starts 1 at 5 hour 4;").without(1), -1);
     }
@@ -910,6 +942,8 @@ public final class BellBayPromises {
         due("behind(0, 1, 0)", x.behind(0, 1, 0), 3);
         due("behind(0, 2, 0)", x.behind(0, 2, 0), 0);
         due("behind(0, 2, 1)", x.behind(0, 2, 1), 0);
+        BellBay y = of("bay churches 2 seconds 9; starts 0 at 0 hour 99; starts 1 at 5 hour 99;");
+        due("hour 99", y.behind(1, 0, 0), 5);
         due("behind(0, 0, 0)", x.behind(0, 0, 0), LONE);
         due("behind(0, 3, 0)", x.behind(0, 3, 0), LONE);
         due("behind(-1, 0, 0)", x.behind(-1, 0, 0), LONE);
@@ -945,6 +979,7 @@ public final class BellBayPromises {
 
     private static void p48() {
         BellBay x = round();
+        due("strikes()", x.strikes(), 4);
         due("tune(1, 6)", x.tune(1, 6), 4);
         due("tune(1, 5)", x.tune(1, 5), 6);
         due("ear(1, 2)", x.ear(1, 2), 5);
@@ -959,6 +994,7 @@ public final class BellBayPromises {
 
     private static void p49() {
         BellBay x = round();
+        due("strikes()", x.strikes(), 4);
         due("shift(0, 19)", x.shift(0, 19), 1);
         due("when(0, 0)", x.when(0, 0), 19);
         due("shift(0, 0)", x.shift(0, 0), 19);
@@ -1145,6 +1181,8 @@ public final class BellBayPromises {
         due("church 2 is 1 off", x.bets(0), 2);
         lay(x, 0, 1, 4, 6, 8);
         due("of several the least", x.bets(0), 1);
+        lay(x, 0, 1, 2, 6, 8);
+        due("church 0", x.bets(0), 0);
         x.muffle(2, 1);
         lay(x, 0, 1, 19, 19, 10);
         due("church 2 is out", x.bets(0), 1);
