@@ -8,7 +8,9 @@ import java.nio.file.Path;
 import java.util.ArrayList;
 import java.util.Arrays;
 import java.util.List;
+import java.util.Map;
 import java.util.Set;
+import java.util.TreeMap;
 import java.util.TreeSet;
 import java.util.regex.Matcher;
 import java.util.regex.Pattern;
@@ -144,8 +146,10 @@ public final class BellBayLanguage {
         }
     }
 
-    private static void checkLengths(String source) {
-        String[] lines = source.split("\n");
+    /** Lengths of methods, and how deep their calls go; methods of one name are taken as one. */
+    private static void checkMethods(String source) {
+        String[] lines = bare(source).split("\n");
+        Map<String, String> bodies = new TreeMap<>();
         int begin = -1;
         String indent = "";
         for (int i = 0; i < lines.length; i++) {
@@ -157,9 +161,36 @@ public final class BellBayLanguage {
                 if (i - begin + 1 > 60) {
                     fail("long: " + lines[begin].trim());
                 }
+                String name = lines[begin].replaceAll("\\(.*", "").replaceAll(".*\\W", "");
+                bodies.merge(name, String.join("\n", Arrays.copyOfRange(lines, begin + 1, i)), String::concat);
                 begin = -1;
             }
         }
+        if (bodies.size() < 120) {
+            fail("only " + bodies.size() + " methods were seen");
+        }
+        Map<String, Integer> known = new TreeMap<>();
+        for (String name : bodies.keySet()) {
+            if (deepest(name, bodies, known) > 8) {
+                fail(name + " goes " + known.get(name) + " deep");
+            }
+        }
+    }
+
+    private static int deepest(String name, Map<String, String> bodies, Map<String, Integer> known) {
+        if (known.containsKey(name)) {
+            return known.get(name);
+        }
+        known.put(name, 1000);
+        int most = 1;
+        Matcher m = Pattern.compile("(\\w+)\\(").matcher(bodies.get(name));
+        while (m.find()) {
+            if (bodies.containsKey(m.group(1))) {
+                most = Math.max(most, 1 + deepest(m.group(1), bodies, known));
+            }
+        }
+        known.put(name, most);
+        return most;
     }
 
     public static void main(String[] args) throws Exception {
@@ -171,7 +202,7 @@ public final class BellBayLanguage {
         checkFace(Path.of(args[1]));
         checkClasses();
         checkWords(source);
-        checkLengths(source);
+        checkMethods(source);
         System.out.println(wrong + " rules broken");
         if (wrong != 0) {
             System.exit(1);

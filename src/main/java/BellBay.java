@@ -234,6 +234,7 @@ public final class BellBay {
         if (!isChurch(church) || !isSecond(second)) {
             return NO_SUCH;
         }
+        asItIs();
         return struckLast(church, second);
     }
 
@@ -289,6 +290,7 @@ public final class BellBay {
         if (!isSecond(second)) {
             return NO_SUCH;
         }
+        asItIs();
         for (int s = second; s < told.seconds; s++) {
             if (allAgree(s)) {
                 return s;
@@ -326,6 +328,7 @@ public final class BellBay {
         if (!areTwo(church, other) || !isSecond(second)) {
             return NOTHING;
         }
+        asItIs();
         return struckLast(church, second) - struckLast(other, second);
     }
 
@@ -359,7 +362,7 @@ public final class BellBay {
         if (!isSecond(second) || what < 0 || what > 1) {
             return NO_SUCH;
         }
-        suppose();
+        supposed.asTold(told);
         supposed.stillFrom = second;
         return setAnswer(search.fewestChurches(), what);
     }
@@ -368,7 +371,7 @@ public final class BellBay {
         if (!isChurch(church) || what < 0 || what > 1) {
             return NO_SUCH;
         }
-        suppose();
+        supposed.asTold(told);
         supposed.stillChurch = church;
         return setAnswer(search.fewestEars(), what);
     }
@@ -377,7 +380,7 @@ public final class BellBay {
         if (!hasBay() || n < 0 || n > MOST_STRIKES) {
             return NO_SUCH;
         }
-        suppose();
+        supposed.asTold(told);
         supposed.mostStrikes = n;
         return setAnswer(search.fewestEars(), 0);
     }
@@ -403,10 +406,10 @@ public final class BellBay {
     }
 
     private boolean isSilentWithout(int church, int ear) {
-        suppose();
+        supposed.asTold(told);
         supposed.severed |= 1 << ear;
         supposed.stillChurch = church;
-        play();
+        trial.play();
         return !trial.unwanted;
     }
 
@@ -414,9 +417,11 @@ public final class BellBay {
         if (!isEar(ear)) {
             return NOTHING;
         }
-        suppose();
+        int before = asItIs().total;
+        supposed.asTold(told);
         supposed.severed |= 1 << ear;
-        return now.total - play();
+        trial.play();
+        return before - trial.total;
     }
 
     // ---- what would be ----
@@ -425,13 +430,14 @@ public final class BellBay {
         if (!isChurch(church) || !isSecond(second) || !isHour(hour)) {
             return NOTHING;
         }
-        return moreWithPan(church, second, hour);
+        return playWithPan(church, second, hour) - asItIs().total;
     }
 
-    private int moreWithPan(int church, int second, int hour) {
-        suppose();
+    private int playWithPan(int church, int second, int hour) {
+        supposed.asTold(told);
         supposed.starts.add(church, second, hour);
-        return play() - now.total;
+        trial.play();
+        return trial.total;
     }
 
     public int boy(int second, int hour) {
@@ -439,11 +445,11 @@ public final class BellBay {
             return NO_SUCH;
         }
         int best = 0;
-        int most = NOTHING;
+        int most = NONE;
         for (int c = 0; c < told.churches; c++) {
-            int more = moreWithPan(c, second, hour);
-            if (more > most) {
-                most = more;
+            int total = playWithPan(c, second, hour);
+            if (total > most) {
+                most = total;
                 best = c;
             }
         }
@@ -454,17 +460,16 @@ public final class BellBay {
         if (!hasBay() || n < -MOST_WIND || n > MOST_WIND) {
             return NOTHING;
         }
-        return gained(n);
+        return gained(asItIs().allStruckBy(told.churches), n);
     }
 
-    private int gained(int n) {
-        suppose();
-        int before = now.allStruckBy(told.churches);
+    private int gained(int before, int n) {
         if (before == NONE) {
             return NOTHING;
         }
+        supposed.asTold(told);
         Arrays.fill(supposed.along, n);
-        play();
+        trial.play();
         int then = trial.allStruckBy(told.churches);
         return then == NONE ? NOTHING : before - then;
     }
@@ -473,10 +478,11 @@ public final class BellBay {
         if (!hasBay()) {
             return NOTHING;
         }
+        int before = asItIs().allStruckBy(told.churches);
         int best = NOTHING;
         int most = NOTHING;
         for (int n = -MOST_WIND; n <= MOST_WIND; n++) {
-            int more = gained(n);
+            int more = gained(before, n);
             if (more > most) {
                 most = more;
                 best = n;
@@ -606,7 +612,11 @@ public final class BellBay {
     // ---- the hours at the end of a second ----
 
     public int common(int second) {
-        return isSecond(second) ? commonHour(second) : NO_SUCH;
+        if (!isSecond(second)) {
+            return NO_SUCH;
+        }
+        asItIs();
+        return commonHour(second);
     }
 
     private int commonHour(int second) {
@@ -637,6 +647,7 @@ public final class BellBay {
         if (!isSecond(second)) {
             return NO_SUCH;
         }
+        asItIs();
         int hour = commonHour(second);
         return hour == 0 ? told.churches : told.churches - sharing(hour, second);
     }
@@ -645,6 +656,7 @@ public final class BellBay {
         if (!hasBay()) {
             return NO_SUCH;
         }
+        asItIs();
         int sum = 0;
         for (int s = 0; s < told.seconds; s++) {
             if (isSplit(s)) {
@@ -701,22 +713,25 @@ public final class BellBay {
         if (!hasBay() || what < 0 || what > NO_LATENESS) {
             return NOTHING;
         }
-        suppose();
+        int before = asItIs().total;
+        supposed.asTold(told);
         supposed.lacking = what;
-        return play() - now.total;
+        trial.play();
+        return trial.total - before;
     }
 
     public int unheard(int i) {
         if (!hasBay() || !asItIs().has(i)) {
             return NOTHING;
         }
-        return fewerUnheard(i);
+        return now.total - playUnheard(i);
     }
 
-    private int fewerUnheard(int i) {
-        suppose();
+    private int playUnheard(int i) {
+        supposed.asTold(told);
         supposed.dumb = i;
-        return now.total - play();
+        trial.play();
+        return trial.total;
     }
 
     public int key() {
@@ -724,12 +739,12 @@ public final class BellBay {
             return NO_SUCH;
         }
         int best = NONE;
-        int most = NOTHING;
+        int least = MOST_STRIKES + 1;
         int total = asItIs().total;
         for (int i = 0; i < total; i++) {
-            int fewer = fewerUnheard(i);
-            if (fewer > most) {
-                most = fewer;
+            int left = playUnheard(i);
+            if (left < least) {
+                least = left;
                 best = i;
             }
         }
@@ -782,12 +797,12 @@ public final class BellBay {
         }
         int best = 0;
         int most = NONE;
+        supposed.asTold(told);
         for (int s = 0; s < told.seconds; s++) {
-            suppose();
             supposed.starts.second[start] = s;
-            int total = play();
-            if (total > most) {
-                most = total;
+            trial.play();
+            if (trial.total > most) {
+                most = trial.total;
                 best = s;
             }
         }
@@ -801,6 +816,7 @@ public final class BellBay {
         if (wrong != 0) {
             return wrong;
         }
+        asItIs();
         Slot row = slots[slot];
         int sum = 0;
         for (int i = 0; i + 2 < row.length; i += 3) {
@@ -816,7 +832,8 @@ public final class BellBay {
         if (wrong != 0) {
             return wrong;
         }
-        seekStarts(slot, limit, hour);
+        supposed.asTold(told);
+        search.seek(slots[slot], limit, hour);
         return search.found;
     }
 
@@ -828,7 +845,8 @@ public final class BellBay {
         if (wrong != 0) {
             return wrong;
         }
-        seekStarts(slot, limit, hour);
+        supposed.asTold(told);
+        search.seek(slots[slot], limit, hour);
         return what == 0 ? search.firstChurch : search.firstSecond;
     }
 
@@ -837,18 +855,14 @@ public final class BellBay {
         if (wrong != 0) {
             return wrong;
         }
-        seekStarts(slot, limit, hour);
+        supposed.asTold(told);
+        search.seek(slots[slot], limit, hour);
         return search.firstChurch == search.lastChurch ? search.firstChurch : NONE;
     }
 
     public int odd(int slot) {
         int wrong = refusal(slot);
         return wrong != 0 ? wrong : asItIs().firstOdd(slots[slot]);
-    }
-
-    private void seekStarts(int slot, int limit, int hour) {
-        suppose();
-        search.seek(slots[slot], limit, hour);
     }
 
     private int refusalOf(int slot, int limit, int hour) {
@@ -898,9 +912,9 @@ public final class BellBay {
     }
 
     private void playDrawn(long seed, int n) {
-        suppose();
+        supposed.asTold(told);
         supposed.draw(seed, n, told.seconds);
-        play();
+        trial.play();
     }
 
     public int bets(int slot) {
@@ -1083,7 +1097,10 @@ public final class BellBay {
 
     // ---- runs ----
 
-    /** The run of the bay as it is; played anew only when something has changed. */
+    /**
+     * The run of the bay as it is; played anew only when something has changed. It uses what is
+     * supposed, so it is asked for ahead of supposing anything else.
+     */
     private Run asItIs() {
         if (stale) {
             supposed.asTold(told);
@@ -1109,19 +1126,7 @@ public final class BellBay {
     }
 
     private int struckLast(int church, int second) {
-        asItIs();
         return isChurch(church) && isSecond(second) ? chart[second * MOST_CHURCHES + church] : 0;
-    }
-
-    /** What is supposed begins as it is: the run as it is comes first, since it uses the same object. */
-    private void suppose() {
-        asItIs();
-        supposed.asTold(told);
-    }
-
-    private int play() {
-        trial.play();
-        return trial.total;
     }
 
     // ---- what is told ----
@@ -1144,7 +1149,7 @@ public final class BellBay {
             }
         }
 
-        void copyFrom(Ears other) {
+        void takeFrom(Ears other) {
             total = other.total;
             System.arraycopy(other.hearer, 0, hearer, 0, MOST_EARS);
             System.arraycopy(other.heard, 0, heard, 0, MOST_EARS);
@@ -1176,7 +1181,7 @@ public final class BellBay {
             }
         }
 
-        void copyFrom(Starts other) {
+        void takeFrom(Starts other) {
             total = other.total;
             System.arraycopy(other.church, 0, church, 0, MOST_STARTS + 1);
             System.arraycopy(other.second, 0, second, 0, MOST_STARTS + 1);
@@ -1200,7 +1205,7 @@ public final class BellBay {
             }
         }
 
-        void copyFrom(Spells other) {
+        void takeFrom(Spells other) {
             total = other.total;
             System.arraycopy(other.of, 0, of, 0, MOST_SPELLS);
             System.arraycopy(other.from, 0, from, 0, MOST_SPELLS);
@@ -1263,12 +1268,12 @@ public final class BellBay {
             System.arraycopy(other.kind, 0, kind, 0, MOST_CHURCHES);
             System.arraycopy(other.late, 0, late, 0, MOST_CHURCHES);
             System.arraycopy(other.rests, 0, rests, 0, MOST_CHURCHES);
-            ears.copyFrom(other.ears);
-            starts.copyFrom(other.starts);
-            winds.copyFrom(other.winds);
-            fogs.copyFrom(other.fogs);
-            deafs.copyFrom(other.deafs);
-            funerals.copyFrom(other.funerals);
+            ears.takeFrom(other.ears);
+            starts.takeFrom(other.starts);
+            winds.takeFrom(other.winds);
+            fogs.takeFrom(other.fogs);
+            deafs.takeFrom(other.deafs);
+            funerals.takeFrom(other.funerals);
         }
     }
 
@@ -1582,7 +1587,7 @@ public final class BellBay {
         void asTold(Bay bay) {
             muffled = bay.muffled;
             severed = bay.severed;
-            starts.copyFrom(bay.starts);
+            starts.takeFrom(bay.starts);
             Arrays.fill(along, 0);
             lacking = NONE;
             dumb = NONE;
@@ -1611,7 +1616,7 @@ public final class BellBay {
 
         void put(int second, int church, int newHour, int newBy, int newEar) {
             int cell = second * MOST_CHURCHES + church;
-            if (bit(waiting[second], church) == 0) {
+            if ((waiting[second] >> church & 1) == 0) {
                 waiting[second] |= 1 << church;
                 others[cell] = 0;
             } else {
@@ -1660,8 +1665,9 @@ public final class BellBay {
             int last = Math.min(as.until, bay.seconds - 1);
             for (int s = 0; s <= last && !over; s++) {
                 for (int c = 0; c < bay.churches && dues.waiting[s] >> c != 0 && !over; c++) {
-                    if (bit(dues.waiting[s], c) == 1) {
-                        settle(s, c);
+                    if (bit(dues.waiting[s], c) == 1 && isStruck(s, c)) {
+                        record(s, c);
+                        goOut(total - 1);
                     }
                 }
             }
@@ -1682,50 +1688,49 @@ public final class BellBay {
             }
         }
 
-        private void settle(int s, int c) {
+        /** Whether what is due is struck; if not, it is lost, as are others than the best in any case. */
+        private boolean isStruck(int s, int c) {
             int cell = s * MOST_CHURCHES + c;
+            boolean before = bit(struck, c) == 1;
             losses[TO_OTHERS] += dues.others[cell];
             if (bit(as.muffled, c) == 1) {
                 losses[TO_MUFFLED]++;
-            } else if (isResting(s, c)) {
+                return false;
+            }
+            if (before && as.lacking != NO_REST && s - lastSecond[c] <= bay.rests[c]) {
                 losses[AT_REST]++;
-            } else if (isTooProud(c, dues.hour[cell])) {
+                return false;
+            }
+            if (before && isProud(c) && dues.hour[cell] <= lastHour[c]) {
                 losses[TO_PROUD]++;
-            } else {
-                sound(s, c, cell);
+                return false;
             }
+            return total < MOST_STRIKES;
         }
 
-        private boolean isResting(int s, int c) {
-            return as.lacking != NO_REST && bit(struck, c) == 1 && s - lastSecond[c] <= bay.rests[c];
+        private boolean isProud(int c) {
+            return bay.kind[c] == PROUD && as.lacking != NO_PRIDE;
         }
 
-        private boolean isTooProud(int c, int due) {
-            return bay.kind[c] == PROUD && as.lacking != NO_PRIDE && bit(struck, c) == 1 && lastHour[c] >= due;
-        }
-
-        private void sound(int s, int c, int cell) {
-            int i = total;
-            if (i >= MOST_STRIKES) {
-                return;
-            }
-            second[i] = s;
-            church[i] = c;
-            hour[i] = dues.hour[cell];
-            by[i] = dues.by[cell];
-            ear[i] = dues.ear[cell];
+        private void record(int s, int c) {
+            int cell = s * MOST_CHURCHES + c;
+            second[total] = s;
+            church[total] = c;
+            hour[total] = dues.hour[cell];
+            by[total] = dues.by[cell];
+            ear[total] = dues.ear[cell];
             lastSecond[c] = s;
-            lastHour[c] = hour[i];
+            lastHour[c] = hour[total];
             struck |= 1 << c;
             total++;
             unwanted = c == as.stillChurch || s >= as.stillFrom || total > as.mostStrikes;
             over = unwanted || total >= MOST_STRIKES;
-            if (!over && i != as.dumb) {
-                goOut(i);
-            }
         }
 
         private void goOut(int i) {
+            if (over || i == as.dumb) {
+                return;
+            }
             for (int e = 0; e < bay.ears.total; e++) {
                 if (bay.ears.heard[e] == church[i] && bit(as.severed, e) == 0) {
                     sent[e]++;
