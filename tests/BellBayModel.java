@@ -1127,12 +1127,13 @@ public final class BellBayModel {
     /** Many quick ears and no rests, so that the 300th strike comes ahead of the last second. */
     static Told crowdedTold(Random r) {
         Told t = randomTold(r, 1, 300, 0);
-        t.churches = 2 + r.nextInt(8);
-        t.seconds = Math.max(t.seconds, 120);
+        boolean most = r.nextInt(5) == 0;
+        t.churches = most ? 9 : 2 + r.nextInt(8);
+        t.seconds = most ? 300 : Math.max(t.seconds, 120);
         t.kind = new int[9];
         t.late = new int[9];
         t.rests = new int[9];
-        for (int e = 6 + r.nextInt(7); e > 0; e--) {
+        for (int e = most ? 12 : 6 + r.nextInt(7); e > 0; e--) {
             int a = r.nextInt(t.churches);
             t.ears.add(new int[] {a, (a + 1 + r.nextInt(t.churches - 1)) % t.churches, 1 + r.nextInt(3), r.nextInt(3)});
         }

@@ -1613,9 +1613,21 @@ public final class BellBay {
         final int[] by = new int[MOST_SECONDS * MOST_CHURCHES];
         final int[] ear = new int[MOST_SECONDS * MOST_CHURCHES];
         final int[] others = new int[MOST_SECONDS * MOST_CHURCHES];
+        int from = MOST_SECONDS;
+        int to = NONE;
+
+        void clear() {
+            for (int s = from; s <= to; s++) {
+                waiting[s] = 0;
+            }
+            from = MOST_SECONDS;
+            to = NONE;
+        }
 
         void put(int second, int church, int newHour, int newBy, int newEar) {
             int cell = second * MOST_CHURCHES + church;
+            from = Math.min(from, second);
+            to = Math.max(to, second);
             if ((waiting[second] >> church & 1) == 0) {
                 waiting[second] |= 1 << church;
                 others[cell] = 0;
@@ -1662,8 +1674,7 @@ public final class BellBay {
 
         void play() {
             begin();
-            int last = Math.min(as.until, bay.seconds - 1);
-            for (int s = 0; s <= last && !over; s++) {
+            for (int s = dues.from; s <= dues.to && s <= as.until && !over; s++) {
                 for (int c = 0; c < bay.churches && dues.waiting[s] >> c != 0 && !over; c++) {
                     if (bit(dues.waiting[s], c) == 1 && isStruck(s, c)) {
                         record(s, c);
@@ -1682,7 +1693,7 @@ public final class BellBay {
             Arrays.fill(fogged, 0);
             Arrays.fill(passed, 0);
             Arrays.fill(sent, 0);
-            Arrays.fill(dues.waiting, 0, bay.seconds, 0);
+            dues.clear();
             for (int i = 0; i < as.starts.total; i++) {
                 dues.put(as.starts.second[i], as.starts.church[i], as.starts.hour[i], NONE, NONE);
             }
