@@ -1677,7 +1677,7 @@ public final class BellBay {
             for (int s = dues.from; s <= dues.to && s <= as.until && !over; s++) {
                 for (int c = 0; c < bay.churches && dues.waiting[s] >> c != 0 && !over; c++) {
                     if (bit(dues.waiting[s], c) == 1 && isStruck(s, c)) {
-                        record(s, c);
+                        ring(s, c);
                         goOut(total - 1);
                     }
                 }
@@ -1723,7 +1723,7 @@ public final class BellBay {
             return bay.kind[c] == PROUD && as.lacking != NO_PRIDE;
         }
 
-        private void record(int s, int c) {
+        private void ring(int s, int c) {
             int cell = s * MOST_CHURCHES + c;
             second[total] = s;
             church[total] = c;
