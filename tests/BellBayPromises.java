@@ -921,6 +921,7 @@ public final class BellBayPromises {
         due("key(), others being 0 or below", y.key(), 2);
         BellBay z = of("bay churches 2 seconds 9; starts 0 at 0 hour 1; starts 1 at 0 hour 1;");
         due("key(), the first of several", z.key(), 0);
+        due("full: key(), each leaving 300", full().key(), 0);
     }
 
     private static void p45() {

@@ -1321,13 +1321,13 @@ public final class BellBay {
                 token = END;
             } else if (isLetter(from)) {
                 token = WORD;
-                while (isLetter(to)) {
+                while (to < length && isLetter(to)) {
                     to++;
                 }
             } else if (isDigit(from)) {
                 token = NUMBER;
                 value = 0;
-                while (isDigit(to)) {
+                while (to < length && isDigit(to)) {
                     value = Math.min(HUGE, value * 10 + bytes[to] - '0');
                     to++;
                 }
