@@ -1063,6 +1063,7 @@ public final class BellBayEdges {
         noBay("many(0)", y -> y.many(0), NO);
         due("many(0) of none", of("bay churches 1 seconds 9;").many(0), 0);
         due("many(8)", of(most()).many(8), 1);
+        due("many(0) of one", of("bay churches 1 seconds 1;starts 0 at 0 hour 1;").many(0), 1);
         due("many(9)", of(most()).many(9), NO);
         due("many(1) of most", turns(300).many(1), 150);
     }
@@ -1096,7 +1097,10 @@ public final class BellBayEdges {
         }
         due("led(8, 0) of one that never strikes", x.led(8, 0), NONE);
         due("led(8, 1) of one that never strikes", x.led(8, 1), NONE);
+        due("led(0, 0) of a start", x.led(0, 0), 0);
         due("led(0, 1) of a start", x.led(0, 1), NONE);
+        due("led(0, 0), the first of many", turns(300).led(0, 0), 0);
+        due("led(1, 1), the first of many", turns(300).led(1, 1), 0);
         churches("led(v, 0)", (y, v) -> y.led(v, 0), NO);
         churches("led(v, -1)", (y, v) -> y.led(v, -1), NO);
         noBay("led(0, 0)", y -> y.led(0, 0), NO);
@@ -1174,6 +1178,12 @@ public final class BellBayEdges {
             due("muffle(" + c + ", 1)", x.muffle(c, 1), 1);
         }
         due("strikes() of all muffled", x.strikes(), 0);
+        BellBay one = of("bay churches 2 seconds 9;ear 1 of 0 takes 1 across;starts 0 at 0 hour 1;");
+        due("strikes() ahead of muffling", one.strikes(), 2);
+        one.muffle(1, 1);
+        due("strikes() from now on", one.strikes(), 1);
+        one.muffle(1, 0);
+        due("strikes() from now on", one.strikes(), 2);
         due("muffle(0, 0)", x.muffle(0, 0), 1);
         due("muffle(0, 0)", x.muffle(0, 0), 0);
         due("count(6)", x.count(6), 510);
@@ -1193,6 +1203,12 @@ public final class BellBayEdges {
             due("cut(" + e + ", 1)", x.cut(e, 1), 1);
         }
         due("strikes() of starts alone", x.strikes(), 4);
+        BellBay one = of("bay churches 2 seconds 9;ear 1 of 0 takes 1 across;starts 0 at 0 hour 1;");
+        due("strikes() ahead of cutting", one.strikes(), 2);
+        one.cut(0, 1);
+        due("strikes() from now on", one.strikes(), 1);
+        one.cut(0, 0);
+        due("strikes() from now on", one.strikes(), 2);
         due("cut(11, 0)", x.cut(11, 0), 1);
         due("cut(11, 0)", x.cut(11, 0), 0);
         due("count(7)", x.count(7), 2047);
@@ -1271,6 +1287,9 @@ public final class BellBayEdges {
         due("needs(1) of the last", x.needs(1), 2048);
         x.cut(11, 1);
         due("needs(1) of none", x.needs(1), NONE);
+        BellBay chain = of("bay churches 9 seconds 30;ear 2 of 1 takes 1 across;ear 1 of 0 takes 1 across;ear 0 of 2 takes 1 across;starts 0 at 0 hour 1;");
+        due("needs(2) of two", chain.needs(2), 3);
+        due("needs(1) of one", chain.needs(1), 2);
         due("needs(0) of nobody", of("bay churches 1 seconds 9;").needs(0), NONE);
         churches("needs", (y, v) -> y.needs(v), NO);
         noBay("needs(0)", y -> y.needs(0), NO);
@@ -1283,6 +1302,12 @@ public final class BellBayEdges {
         due("harm(0) of one of many", twelve().harm(0), 0);
         due("harm(11) of one of many", twelve().harm(11), 0);
         due("harm(12)", twelve().harm(12), LONE);
+        BellBay chain = of("bay churches 3 seconds 9;ear 1 of 0 takes 1 across;ear 2 of 1 takes 1 across;ear 2 of 1 takes 3 across;starts 0 at 0 hour 1;");
+        due("harm(1), one way being left", chain.harm(1), 1);
+        chain.cut(2, 1);
+        due("harm(1), the other being cut", chain.harm(1), 1);
+        due("harm(0), the other being cut", chain.harm(0), 2);
+        due("harm(2), itself being cut", chain.harm(2), 0);
         due("harm(0), more without", of("bay churches 2 seconds 30;church eager rests 0;church proud rests 0;ear 1 of 0 takes 3 across;starts 0 at 0 hour 9;"
             + "starts 1 at 7 hour 5;starts 1 at 8 hour 6;starts 1 at 9 hour 7;").harm(0), -2);
         ears("harm", (y, v) -> y.harm(v), LONE);
@@ -1459,6 +1484,9 @@ public final class BellBayEdges {
         for (int[] one : want) {
             due("common(" + one[0] + ")", x.common(one[0]), one[1]);
         }
+        BellBay least = of("bay churches 9 seconds 9;starts 0 at 0 hour 7;starts 1 at 0 hour 5;starts 2 at 0 hour 6;");
+        due("common(0), the least of three", least.common(0), 5);
+        due("common(0), two of one hour", of("bay churches 9 seconds 9;starts 0 at 0 hour 7;starts 1 at 0 hour 5;starts 2 at 0 hour 7;").common(0), 7);
         due("common(299) of nobody", of("bay churches 9 seconds 300;").common(299), 0);
         seconds("common", (y, v) -> y.common(v), NO);
         noBay("common(0)", y -> y.common(0), NO);
@@ -1528,6 +1556,15 @@ public final class BellBayEdges {
             stays("without(" + what + ") changes nothing", BUSY_ONE, y -> y.without(it) * 0, 0);
         }
         bounds("without", (y, v) -> y.without(v), 0, 6, LONE);
+        String[] one = {"fog on 0 from 3 to 3;", "deaf 1 from 3 to 3;", "funeral at 1 from 3 to 3;", "wind at 0 against 17;", "", "", ""};
+        String[] kinds = {"eager rests 0", "eager rests 0", "eager rests 0", "eager rests 0", "eager rests 3", "proud rests 0", "late 17 rests 0"};
+        for (int what = 0; what <= 6; what++) {
+            BellBay x = of("bay churches 2 seconds 20;church eager rests 0;church " + kinds[what] + ";ear 1 of 0 takes 3 along;starts 0 at 0 hour 99;"
+                + (what == 4 || what == 5 ? "starts 1 at 0 hour 99;" : "") + one[what]);
+            for (int other = 0; other <= 6; other++) {
+                due("without(" + other + ") where there is " + what, x.without(other), other == what ? 1 : 0);
+            }
+        }
         BellBay rest = of("bay churches 2 seconds 300;church eager rests 99;church eager rests 99;ear 0 of 1 takes 1 across;ear 1 of 0 takes 1 across;starts 0 at 0 hour 1;");
         due("without(4): 300 in place of 2", rest.without(4), 298);
         due("without(2), fewer", of("bay churches 2 seconds 9;church eager rests 0;church proud rests 0;ear 1 of 0 takes 1 across;funeral at 1 from 3 to 3;"
@@ -1672,6 +1709,12 @@ public final class BellBayEdges {
         ears("tune(v, 1)", (y, v) -> y.tune(v, 1), NO);
         bounds("tune(0, v)", (y, v) -> y.tune(0, v), 1, 60, NO);
         noBay("tune(0, 1)", y -> y.tune(0, 1), NO);
+        BellBay later = of("bay churches 2 seconds 60;ear 1 of 0 takes 59 across;starts 0 at 0 hour 1;");
+        due("heard in the last second", later.strikes(), 2);
+        later.tune(0, 60);
+        due("heard behind it from now on", later.strikes(), 1);
+        later.tune(0, 1);
+        due("heard in second 1 from now on", later.quiet(), 1);
         due("tune(0, 1) without ears", of("bay churches 2 seconds 9;").tune(0, 1), NO);
     }
 
@@ -1685,6 +1728,12 @@ public final class BellBayEdges {
         bounds("shift(v, 0)", (y, v) -> y.shift(v, 0), 0, 1, NO);
         seconds("shift(0, v)", (y, v) -> y.shift(0, v), NO);
         noBay("shift(0, 0)", y -> y.shift(0, 0), NO);
+        BellBay later = of("bay churches 2 seconds 60;ear 1 of 0 takes 10 across;starts 0 at 49 hour 1;");
+        due("heard in the last second", later.strikes(), 2);
+        later.shift(0, 50);
+        due("heard behind it from now on", later.strikes(), 1);
+        later.shift(0, 0);
+        due("heard in second 10 from now on", later.quiet(), 10);
         due("shift(0, 0) without starts", of("bay churches 2 seconds 9;").shift(0, 0), NO);
     }
 
@@ -1873,6 +1922,11 @@ public final class BellBayEdges {
         due("both met, the least", x.bets(0), 7);
         x.write(0, 7, 298);
         due("church 8 met", x.bets(0), 8);
+        BellBay two = of("bay churches 2 seconds 9;starts 0 at 0 hour 1;starts 1 at 8 hour 1;");
+        lay(two, 0, 0, 8, 0);
+        due("both as far as can be, the least", two.bets(0), 0);
+        lay(two, 0, 0, 7, 0);
+        due("church 0", two.bets(0), 0);
         BellBay nobody = of("bay churches 9 seconds 300;");
         nobody.row(0, 0, 9);
         due("all are out", nobody.bets(0), NONE);
