@@ -22,6 +22,7 @@ public final class BellBayModel {
         int churches;
         int seconds;
         int lines;
+        int churchesTold;
         int[] kind = new int[9];
         int[] late = new int[9];
         int[] rests = new int[9];
@@ -39,6 +40,7 @@ public final class BellBayModel {
             t.churches = churches;
             t.seconds = seconds;
             t.lines = lines;
+            t.churchesTold = churchesTold;
             t.kind = kind.clone();
             t.late = late.clone();
             t.rests = rests.clone();
@@ -225,6 +227,9 @@ public final class BellBayModel {
         Told[] images = new Told[3];
         long[][] rows = new long[4][];
         int[] widths = new int[4];
+        int tape = 0;
+        int fault = 0;
+        int place = -1;
 
         private Play play() {
             return play(t);
@@ -973,8 +978,20 @@ public final class BellBayModel {
             for (long[] r : rows) {
                 rowsThere += r == null ? 0 : 1;
             }
-            int[] all = {t.churches, t.seconds, t.ears.size(), t.starts.size(), t.lines, 0, bits, cuts, rowsThere};
+            int[] all = {t.churches, t.seconds, t.ears.size(), t.starts.size(), t.lines, tape, bits, cuts, rowsThere};
             return what < 0 || what > 8 ? -1 : all[what];
+        }
+
+        public int fault(int what) {
+            return what == 0 ? fault : what == 1 ? place : -1;
+        }
+
+        public int end(int n) {
+            if (n < 0 || n > tape) {
+                return -1;
+            }
+            tape = n;
+            return n;
         }
 
         public int keep(int k) {
@@ -1184,6 +1201,7 @@ public final class BellBayModel {
             lines.add("starts " + s[0] + " at " + s[1] + " hour " + s[2]);
         }
         t.lines = lines.size() + 1;
+        t.churchesTold = toldChurches;
         StringBuilder text = new StringBuilder("bay churches " + t.churches + " seconds " + t.seconds + ";");
         for (String line : lines) {
             text.append(r.nextInt(9) == 0 ? "\n" : "").append(r.nextInt(5) == 0 ? line.replace(" ", "  ") : line).append(";");
@@ -1201,7 +1219,7 @@ public final class BellBayModel {
         "gap c", "waits c s", "rank c", "common s", "strayed s", "splits", "silence w2", "spread h", "without w7",
         "unheard i", "!key", "!wise", "behind c c w2", "log r", "tune e t", "shift x s", "!soon x", "!hush u",
         "!began r s h", "!first r s h w2", "!sure r s h", "odd r", "drawn z n w3", "chance z t n c h", "bets r", "count w9",
-        "keep k", "back k", "row r w4 y", "write r y v", "paste r y r y y"
+        "keep k", "back k", "row r w4 y", "write r y v", "paste r y r y y", "fault w2", "end m"
     };
 
     private long argument(String kind) {
@@ -1212,9 +1230,10 @@ public final class BellBayModel {
             return odd[random.nextInt(odd.length)];
         }
         switch (kind.charAt(0)) {
-            case 'c': return random.nextInt(model.t.churches);
+            case 'c': return random.nextInt(Math.max(1, model.t.churches));
             case 'e': return random.nextInt(Math.max(1, model.t.ears.size()));
-            case 's': return random.nextInt(model.t.seconds);
+            case 'm': return random.nextInt(model.tape + 1);
+            case 's': return random.nextInt(Math.max(1, model.t.seconds));
             case 'i': return random.nextInt(Math.max(1, model.strikes()));
             case 'w': return random.nextInt(n);
             case 'd': return random.nextInt(6);
@@ -1222,7 +1241,7 @@ public final class BellBayModel {
             case 'n': return random.nextInt(45) - 22;
             case 'r': return random.nextInt(4);
             case 't': return 1 + random.nextInt(20);
-            case 'u': return random.nextInt(2 + model.strikes());
+            case 'u': return random.nextInt(2 + Math.max(0, model.strikes()));
             case 'x': return random.nextInt(Math.max(1, model.t.starts.size()));
             case 'z': return random.nextInt(4) == 0 ? 2000000000 - random.nextInt(3) : random.nextInt(2000000000);
             case 'k': return random.nextInt(3);
@@ -1253,7 +1272,7 @@ public final class BellBayModel {
         }
         String told = parts[0] + Arrays.toString(values);
         due(told, (int) one.invoke(real, values), (int) other.invoke(model, values));
-        if ("muffle cut tune shift keep back row write paste".contains(parts[0])) {
+        if ("muffle cut tune shift keep back row write paste end".contains(parts[0])) {
             story.append(' ').append(told);
         }
     }
@@ -1304,6 +1323,49 @@ public final class BellBayModel {
         }
     }
 
+    /** Another BAY on an object that had one, no BAY, or a FAULT; the TAPE may have blanks ahead of it. */
+    private void tellAnew(int kind) {
+        if (kind == 0) {
+            due("feed", real.feed(0x20202020, 0x0a202020, 0x20202020, 0x20202020, 0x2020200a), model.tape += 20);
+            story.append(" feed of blanks");
+            return;
+        }
+        Told told = kind == 1 ? new Told() : randomTold(random, 5, 60, 6);
+        String text = kind == 1 ? "\n " : textOf(told, random);
+        int at = model.tape + text.length();
+        model.fault = 0;
+        model.place = -1;
+        if (kind > 4) {
+            String[] wrongLines = {"?", "bay churches 1 seconds 9;", "ear", "deaf " + told.churches, "fog on 12 from 0 to 0;",
+                "church eager rests 0;".repeat(10), "wind at " + told.seconds, "ear 0 of 0"};
+            int[] faults = {1, 1, 1, 2, 2, 3, 2, 2};
+            int[] places = {0, 0, 3, 5, 7, 21 * (told.churches - told.churchesTold), 8, 9};
+            int i = random.nextInt(faults.length);
+            text += wrongLines[i];
+            model.fault = faults[i];
+            model.place = at + places[i];
+        }
+        pour(real, text);
+        story.append(" / ").append(text.replace('\n', ' ')).append(" / ");
+        model.tape = 0;
+        due("bay() anew", real.bay(), model.fault != 0 ? -4 : told.lines);
+        if (model.fault == 0) {
+            model.t = told;
+        }
+    }
+
+    private static void lives(int from, int to) throws Exception {
+        for (int seed = from; seed < to; seed++) {
+            Random r = new Random(seed * 7919L);
+            Told told = randomTold(r, 4, 40, 5);
+            BellBayModel one = new BellBayModel(seed, told, textOf(told, r));
+            for (int i = 0; i < 8; i++) {
+                one.ask(12, i % 4 == 0);
+                one.tellAnew(one.random.nextInt(9));
+            }
+        }
+    }
+
     /** Calls of a new object's life are 512; what is fed and laid in rows counts too. */
     private static void runs(int from, int to, int churches, int seconds, int ears) throws Exception {
         for (int seed = from; seed < to; seed++) {
@@ -1337,6 +1399,7 @@ public final class BellBayModel {
         runs(2000, 2030, 9, 120, 12);
         runs(3000, 3040, 3, 300, 4);
         crowdedRuns(4000, 4120);
+        lives(5000, 5400);
         System.out.println(asked + " answers asked, " + wrong + " not as due");
         if (wrong != 0) {
             System.exit(1);

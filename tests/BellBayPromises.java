@@ -151,6 +151,19 @@ public final class BellBayPromises {
         due("count(1)", x.count(1), 0);
         due("count(0)", x.count(0), 0);
         due("strikes()", x.strikes(), -2);
+        BellBay y = round();
+        put(y, "bay churches 2 seconds 9; church late 7 rests 6; church proud rests 5; ear 0 of 1 takes 2 across; starts 1 at 3 hour 8;");
+        due("bay() with church LINES in place of one with church LINES", y.bay(), 5);
+        int[] churches = {2, 7, 6, 0, 1, 0, 5, 0};
+        for (int i = 0; i < churches.length; i++) {
+            due("church(" + i / 4 + ", " + i % 4 + ") anew", y.church(i / 4, i % 4), churches[i]);
+        }
+        put(y, "bay churches 1 seconds 9; church proud rests 1; church");
+        due("bay() with a church too many", y.bay(), -4);
+        due("fault(0)", y.fault(0), 3);
+        put(y, "bay churches 1 seconds 9; church proud rests 1; starts 0 at 0 hour 1; starts 0 at 2 hour 1; starts 0 at 3 hour 2;");
+        due("bay() behind that", y.bay(), 5);
+        due("strikes() behind that", y.strikes(), 2);
         due("bay() of nothing", nothing().bay(), 0);
         due("bay of most", of("bay churches 9 seconds 300;").count(1), 300);
         due("no blanks", of("bay churches1seconds1;starts0at0hour1;").strikes(), 1);
