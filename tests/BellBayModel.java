@@ -1121,16 +1121,17 @@ public final class BellBayModel {
                 t.ears.add(new int[] {a, b, 1 + r.nextInt(quick ? 5 : 30), r.nextInt(3)});
             }
         }
-        for (int i = r.nextInt(4); i > 0; i--) {
+        int spells = r.nextInt(5) == 0 ? 7 : 3;
+        for (int i = r.nextInt(spells); i > 0; i--) {
             t.winds.add(new int[] {r.nextInt(t.seconds), r.nextInt(21) - 10});
         }
-        for (int i = r.nextInt(3); i > 0 && !t.ears.isEmpty(); i--) {
+        for (int i = r.nextInt(spells); i > 0 && !t.ears.isEmpty(); i--) {
             t.fogs.add(spell(r, t.ears.size(), t.seconds));
         }
-        for (int i = r.nextInt(3); i > 0; i--) {
+        for (int i = r.nextInt(spells); i > 0; i--) {
             t.deafs.add(spell(r, t.churches, t.seconds));
         }
-        for (int i = r.nextInt(4); i > 0; i--) {
+        for (int i = r.nextInt(spells); i > 0; i--) {
             t.funerals.add(spell(r, t.churches, t.seconds));
         }
         int low = r.nextInt(4) == 0 ? 96 : 1;
@@ -1154,9 +1155,13 @@ public final class BellBayModel {
             int a = r.nextInt(t.churches);
             t.ears.add(new int[] {a, (a + 1 + r.nextInt(t.churches - 1)) % t.churches, 1 + r.nextInt(3), r.nextInt(3)});
         }
-        t.fogs.add(spell(r, t.ears.size(), t.seconds));
-        t.deafs.add(spell(r, t.churches, t.seconds));
-        t.funerals.add(spell(r, t.churches, t.seconds));
+        t.deafs.clear();
+        t.funerals.clear();
+        for (int i = r.nextInt(4) == 0 ? 6 : 1; i > 0; i--) {
+            t.fogs.add(spell(r, t.ears.size(), t.seconds));
+            t.deafs.add(spell(r, t.churches, t.seconds));
+            t.funerals.add(spell(r, t.churches, t.seconds));
+        }
         t.starts.clear();
         for (int i = 1 + r.nextInt(4); i > 0; i--) {
             t.starts.add(new int[] {r.nextInt(t.churches), r.nextInt(10), 1 + r.nextInt(3)});
@@ -1166,7 +1171,7 @@ public final class BellBayModel {
 
     private static int[] spell(Random r, int all, int seconds) {
         int from = r.nextInt(seconds);
-        int to = Math.min(seconds - 1, from + r.nextInt(1 + seconds / 3));
+        int to = Math.min(seconds - 1, from + r.nextInt(1 + seconds / (1 + r.nextInt(6))));
         return new int[] {r.nextInt(all), from, to};
     }
 
@@ -1311,6 +1316,37 @@ public final class BellBayModel {
         story.append(" row ").append(slot).append(' ').append(width).append(' ').append(row);
     }
 
+    /** Strikes that come of one start alone, or nearly so: by whom did they begin? */
+    private void askWhoBegan() {
+        int church = random.nextInt(Math.max(1, model.t.churches));
+        int second = random.nextInt(Math.max(1, model.t.seconds / 2));
+        int hour = 1 + random.nextInt(99);
+        Told alone = model.t.copy();
+        alone.starts.clear();
+        alone.starts.add(new int[] {church, second, hour});
+        List<Bell> bells = Model.play(alone).bells;
+        if (bells.isEmpty()) {
+            return;
+        }
+        int slot = random.nextInt(4);
+        int n = 3 * (1 + random.nextInt(4));
+        due("row", real.row(slot, 1, n), model.row(slot, 1, n));
+        for (int i = 0; i < n; i += 3) {
+            Bell b = bells.get(bells.size() - 1 - random.nextInt(Math.min(bells.size(), 1 + random.nextInt(8))));
+            long[] three = {b.second, b.church, b.hour + (random.nextInt(25) == 0 ? 1 : 0)};
+            for (int k = 0; k < 3; k++) {
+                due("write", real.write(slot, i + k, three[k]), model.write(slot, i + k, three[k]));
+            }
+        }
+        int limit = random.nextBoolean() ? second : random.nextInt(model.t.seconds);
+        String told = "(" + slot + ", " + limit + ", " + hour + ") of " + Arrays.toString(model.rows[slot]);
+        due("began" + told, real.began(slot, limit, hour), model.began(slot, limit, hour));
+        due("first" + told, real.first(slot, limit, hour, 0), model.first(slot, limit, hour, 0));
+        due("first" + told, real.first(slot, limit, hour, 1), model.first(slot, limit, hour, 1));
+        due("sure" + told, real.sure(slot, limit, hour), model.sure(slot, limit, hour));
+        due("odd" + told, real.odd(slot), model.odd(slot));
+    }
+
     private void ask(int calls, boolean dear) throws Exception {
         for (int i = 0; i < calls; i++) {
             if (random.nextInt(20) == 0) {
@@ -1341,9 +1377,10 @@ public final class BellBayModel {
             int[] faults = {1, 1, 1, 2, 2, 3, 2, 2};
             int[] places = {0, 0, 3, 5, 7, 21 * (told.churches - told.churchesTold), 8, 9};
             int i = random.nextInt(faults.length);
+            boolean seventh = i == 3 && told.deafs.size() == 6 || i == 4 && told.fogs.size() == 6 || i == 6 && told.winds.size() == 6;
             text += wrongLines[i];
-            model.fault = faults[i];
-            model.place = at + places[i];
+            model.fault = seventh ? 3 : faults[i];
+            model.place = seventh ? at : at + places[i];
         }
         pour(real, text);
         story.append(" / ").append(text.replace('\n', ' ')).append(" / ");
@@ -1361,6 +1398,7 @@ public final class BellBayModel {
             BellBayModel one = new BellBayModel(seed, told, textOf(told, r));
             for (int i = 0; i < 8; i++) {
                 one.ask(12, i % 4 == 0);
+                one.askWhoBegan();
                 one.tellAnew(one.random.nextInt(9));
             }
         }

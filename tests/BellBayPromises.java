@@ -296,6 +296,7 @@ public final class BellBayPromises {
     }
 
     private static void p8() {
+        sixWinds();
         BellBay x = round();
         due("takes(0, 4)", x.takes(0, 4), 3);
         due("takes(0, 5)", x.takes(0, 5), 1);
@@ -363,7 +364,41 @@ public final class BellBayPromises {
         due("a greater hour is ahead of a start", z.strike(1, 3), 0);
     }
 
+    /** The one start is moved so that it is heard in each SECOND from 1 on; the six are of SECONDS 2 to 4, 12 to 14, .. */
+    private static void sixOfEach() {
+        String[] lines = {"fog on 0", "deaf 1", "funeral at 1"};
+        int[] within = {0, 0, 6};
+        for (int kind = 0; kind < 3; kind++) {
+            StringBuilder text = new StringBuilder("bay churches 2 seconds 70; ear 1 of 0 takes 1 across; starts 0 at 0 hour 5;");
+            for (int i = 0; i < 6; i++) {
+                text.append(lines[kind]).append(" from ").append(10 * i + 2).append(" to ").append(10 * i + 4).append(";");
+            }
+            BellBay x = of(text.toString());
+            x.keep(0);
+            x.bay();
+            x.back(0);
+            for (int heard = 1; heard < 70; heard++) {
+                boolean in = heard < 60 && heard % 10 >= 2 && heard % 10 <= 4;
+                x.shift(0, heard - 1);
+                due("six of " + lines[kind] + ", heard in " + heard, x.hour(1, 69), in ? within[kind] : 5);
+            }
+        }
+    }
+
+    private static void sixWinds() {
+        StringBuilder text = new StringBuilder("bay churches 2 seconds 70; ear 1 of 0 takes 30 along;");
+        for (int i = 5; i >= 0; i--) {
+            text.append("wind at ").append(10 * i + 5).append(i % 2 == 0 ? " along " : " against ").append(3 * i + 1).append(";");
+        }
+        BellBay x = of(text.toString());
+        int[] takes = {30, 29, 34, 23, 40, 17, 46};
+        for (int second = 0; second < 70; second++) {
+            due("takes(0, " + second + ") by six winds", x.takes(0, second), takes[Math.min((second + 5) / 10, 6)]);
+        }
+    }
+
     private static void p11() {
+        sixOfEach();
         BellBay x = round();
         int[] losses = {0, 0, 0, 1, 0, 0, 0, 0};
         for (int what = 0; what < 8; what++) {
@@ -1080,6 +1115,14 @@ public final class BellBayPromises {
         due("two", x.began(1, 9, 3), 2);
         lay(x, 1, 2, 10, 2, 3, 4, 1, 3, 17, 0, 3, 1, 0, 3);
         due("all four", x.began(1, 9, 3), 1);
+        lay(x, 1, 2, 1, 0, 3, 17, 0, 3);
+        due("the later behind the sooner", x.began(1, 19, 3), 1);
+        lay(x, 1, 2, 1, 0, 3, 4, 1, 3, 10, 2, 3, 17, 0, 3);
+        due("all four, in order", x.began(1, 19, 3), 1);
+        lay(x, 1, 2, 10, 2, 3, 17, 0, 3);
+        due("by 0 at 1, 1 at 4, 2 at 10", x.began(1, 19, 3), 3);
+        lay(x, 1, 2, 10, 2, 3, 17, 0, 3, 18, 0, 3);
+        due("the last is not so", x.began(1, 19, 3), 0);
         due("nothing is changed by asking", x.strikes(), 4);
         due("began(0, 5, 3) of no bay", nothing().began(0, 5, 3), -2);
         BellBay y = of("bay churches 1 seconds 9;");
